@@ -55,6 +55,7 @@ public final class MownMaze {
     private static final int NORTH = 0;
     private static final int EAST = 1;
     private static final int SOUTH = 2;
+    private static final int WEST = 3;
 
     private final Tape tape;
     private final Reader reader;
@@ -690,7 +691,7 @@ public final class MownMaze {
     }
 
     private static boolean isIn(long set, int cell) {
-        return (set & bit(cell)) != 0;
+        return (set >>> cell & 1) != 0;
     }
 
     private static int nthCell(long set, int n) {
@@ -790,26 +791,34 @@ public final class MownMaze {
         }
 
         void goOn() {
-            skipBlanks();
+            for (int i = next; i < end && tape.byteAt(i) == ' '; i++) {
+                next = i + 1;
+            }
             start = next;
-            if (start >= end) {
-                kind = END;
-            } else if (isLetter(tape.byteAt(start))) {
-                takeWord();
-            } else if (isDigit(tape.byteAt(start))) {
-                takeWhole();
-            } else {
-                next = start + 1;
-                kind = isSign(';') || isSign(',') ? SIGN : NO_TOKEN;
+            kind = start < end ? kindOf(tape.byteAt(start)) : END;
+            value = 0;
+            code = 0;
+            int limit = kind == WORD || kind == WHOLE ? end : Math.min(end, start + 1);
+            for (int i = start; i < limit && kindOf(tape.byteAt(i)) == kind; i++) {
+                value = value * 10 + (tape.byteAt(i) - '0');
+                code = code * 32 + (tape.byteAt(i) - 'a' + 1);
+                next = i + 1;
+            }
+            if (next - start > mostBytes()) {
+                kind = NO_TOKEN;
             }
         }
 
         boolean isSign(char sign) {
-            return start < end && tape.byteAt(start) == sign;
+            return kind == SIGN && tape.byteAt(start) == sign;
         }
 
         boolean isWord(String word) {
-            return kind == WORD && code == codeOf(word, 0, word.length());
+            boolean same = kind == WORD && letterCount() == word.length();
+            for (int i = 0; same && i < word.length(); i++) {
+                same = tape.byteAt(start + i) == word.charAt(i);
+            }
+            return same;
         }
 
         /** Which of the words of a list, parted by blanks, this token is. */
@@ -828,28 +837,19 @@ public final class MownMaze {
             return NONE;
         }
 
-        private void skipBlanks() {
-            for (int i = next; i < end && tape.byteAt(i) == ' '; i++) {
-                next = i + 1;
-            }
+        private int mostBytes() {
+            return kind == WORD ? MOST_LETTERS : kind == WHOLE ? MOST_DIGITS : 1;
         }
 
-        private void takeWord() {
-            code = 0;
-            for (int i = start; i < end && isLetter(tape.byteAt(i)); i++) {
-                code = code * 32 + (tape.byteAt(i) - 'a' + 1);
-                next = i + 1;
+        /** Which token begins with a byte. */
+        private static int kindOf(int sign) {
+            if (sign >= 'a' && sign <= 'z') {
+                return WORD;
             }
-            kind = next - start <= MOST_LETTERS ? WORD : NO_TOKEN;
-        }
-
-        private void takeWhole() {
-            value = 0;
-            for (int i = start; i < end && isDigit(tape.byteAt(i)); i++) {
-                value = value * 10 + (tape.byteAt(i) - '0');
-                next = i + 1;
+            if (sign >= '0' && sign <= '9') {
+                return WHOLE;
             }
-            kind = next - start <= MOST_DIGITS ? WHOLE : NO_TOKEN;
+            return sign == ';' || sign == ',' ? SIGN : NO_TOKEN;
         }
 
         private static long codeOf(String text, int from, int till) {
@@ -858,14 +858,6 @@ public final class MownMaze {
                 code = code * 32 + (text.charAt(i) - 'a' + 1);
             }
             return code;
-        }
-
-        private static boolean isLetter(int sign) {
-            return sign >= 'a' && sign <= 'z';
-        }
-
-        private static boolean isDigit(int sign) {
-            return sign >= '0' && sign <= '9';
         }
     }
 
@@ -1058,7 +1050,7 @@ public final class MownMaze {
         }
 
         private boolean takeSign(char sign) {
-            if (tokens.kind() != Tokens.SIGN || !tokens.isSign(sign)) {
+            if (!tokens.isSign(sign)) {
                 return fail(FORM);
             }
             tokens.goOn();
@@ -1323,6 +1315,7 @@ public final class MownMaze {
 
     /** How cells lie to each other; which of them are mown is told with each question. */
     private static final class Ground {
+        private final int[] cellsTo = new int[MOST_CELLS * SIDES];
         private int wide;
         private int high;
         private int count;
@@ -1340,6 +1333,19 @@ public final class MownMaze {
             for (int y = 0; y < rows; y++) {
                 firstColumn |= bit(number(0, y));
                 lastColumn |= bit(number(columns - 1, y));
+                for (int x = 0; x < columns; x++) {
+                    layBeside(x, y, NORTH, x, y - 1);
+                    layBeside(x, y, EAST, x + 1, y);
+                    layBeside(x, y, SOUTH, x, y + 1);
+                    layBeside(x, y, WEST, x - 1, y);
+                }
+            }
+        }
+
+        private void layBeside(int x, int y, int side, int otherX, int otherY) {
+            int i = number(x, y) * SIDES + side;
+            if (i >= 0 && i < cellsTo.length) {
+                cellsTo[i] = isInside(otherX, otherY) ? number(otherX, otherY) : NONE;
             }
         }
 
@@ -1353,16 +1359,8 @@ public final class MownMaze {
 
         /** The cell to one side; NONE beyond the meadow. */
         int cellTo(int side, int cell) {
-            if (side == NORTH) {
-                return cell >= wide ? cell - wide : NONE;
-            }
-            if (side == EAST) {
-                return isIn(lastColumn, cell) ? NONE : cell + 1;
-            }
-            if (side == SOUTH) {
-                return cell + wide < count ? cell + wide : NONE;
-            }
-            return isIn(firstColumn, cell) ? NONE : cell - 1;
+            int i = cell * SIDES + side;
+            return i >= 0 && i < cellsTo.length ? cellsTo[i] : NONE;
         }
 
         /** All cells beside one of a set. */
