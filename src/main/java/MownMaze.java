@@ -1532,6 +1532,7 @@ public final class MownMaze {
         private int facing;
         private int seed;
         private int outMinute;
+        private int lastMinute;
 
         Walk(Plan plan) {
             this.plan = plan;
@@ -1555,20 +1556,22 @@ public final class MownMaze {
         void goTillDusk(Plan newPlan, int number, long mownCells, int meadowSeed) {
             begin(newPlan, number, mownCells, meadowSeed);
             outMinute = MISSING;
-            for (int minute = 0; minute < track.length; minute++) {
-                boolean there = minute >= walker.leaves && minute <= plan.dusk && outMinute == MISSING;
-                if (there && minute > walker.leaves) {
+            lastMinute = MISSING;
+            for (int minute = walker.leaves; minute <= plan.dusk && outMinute == MISSING; minute++) {
+                if (minute > walker.leaves) {
                     step();
                 }
-                track[minute] = there ? cell : MISSING;
-                if (there && isAtGate()) {
-                    outMinute = minute;
+                if (minute >= 0 && minute < track.length) {
+                    track[minute] = cell;
                 }
+                lastMinute = minute;
+                outMinute = isAtGate() ? minute : MISSING;
             }
         }
 
         int cellIn(int minute) {
-            return minute >= 0 && minute < track.length ? track[minute] : MISSING;
+            boolean there = minute >= walker.leaves && minute <= lastMinute;
+            return there && minute >= 0 && minute < track.length ? track[minute] : MISSING;
         }
 
         int outIn() {
