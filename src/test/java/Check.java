@@ -1,9 +1,15 @@
+import java.io.IOException;
 import java.nio.charset.StandardCharsets;
+import java.nio.file.Files;
+import java.nio.file.Path;
 import java.util.Arrays;
 
 /** What the tests share: texts to the tape, and answers held against those that are due. */
 final class Check {
+    private static final Path DOCUMENT = Path.of("../shared/DOC.md");
+
     private final String name;
+    private String sentence = "";
     private int asked;
     private int wrong;
 
@@ -15,7 +21,24 @@ final class Check {
         asked++;
         if (got != want) {
             wrong++;
-            System.out.println(name + ": " + call + " answered " + got + ", due is " + want);
+            String shown = call.length() > 300 ? call.substring(0, 300) + ".." : call;
+            System.out.println(name + ": " + shown + " answered " + got + ", due is " + want);
+            System.out.print(sentence.isEmpty() ? "" : "    the document says: " + sentence + "\n");
+        }
+    }
+
+    /** What the document says, word for word, of the answers that come next. */
+    void says(String words) {
+        sentence = words;
+        due("the document has: " + words, document().contains(words), true);
+    }
+
+    /** The document as one line. */
+    static String document() {
+        try {
+            return Files.readString(DOCUMENT, StandardCharsets.UTF_8).replaceAll("\\s+", " ");
+        } catch (IOException missing) {
+            throw new IllegalStateException("there is no " + DOCUMENT);
         }
     }
 
@@ -77,6 +100,15 @@ final class Check {
             throw new IllegalStateException("fault " + x.fault() + " at " + x.where() + " in " + text);
         }
         return x;
+    }
+
+    /** A text of a meadow with those rows; what stands between high and the rows is told. */
+    static String rows(String sizes, String... rows) {
+        StringBuilder text = new StringBuilder("meadow wide " + rows[0].length() + " high " + rows.length + " " + sizes);
+        for (String row : rows) {
+            text.append(";row ").append(row);
+        }
+        return text.toString();
     }
 
     private static int number(byte[] bytes, int from) {
