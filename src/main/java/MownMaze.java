@@ -1723,7 +1723,7 @@ public final class MownMaze {
             int count = Math.min(MOST_TO_MOW, Long.bitCount(todo));
             findBesides(ground, todo, count);
             int sets = 1 << count;
-            for (int set = 0; set < sets && set < fewest.length; set++) {
+            for (int set = 0; set < sets && set < fewest.length && set < lasts.length; set++) {
                 fewest[set] = set == 0 ? 0 : MOST_TO_MOW + 1;
                 lasts[set] = 0;
             }
@@ -1731,7 +1731,8 @@ public final class MownMaze {
             for (int set = 0; set < sets; set++) {
                 mowOneMore(set, count);
             }
-            return fewest[sets - 1];
+            int whole = sets - 1;
+            return whole >= 0 && whole < fewest.length ? fewest[whole] : 0;
         }
 
         private void findBesides(Ground ground, long todo, int count) {
@@ -1747,9 +1748,12 @@ public final class MownMaze {
         }
 
         private void mowOneMore(int set, int count) {
+            if (set < 0 || set >= fewest.length || set >= lasts.length) {
+                return;
+            }
             for (int i = 0; i < count && i < besides.length; i++) {
                 int more = set | 1 << i;
-                if (more != set && more < fewest.length) {
+                if (more != set && more < fewest.length && more < lasts.length) {
                     int strokes = (besides[i] & lasts[set]) != 0 ? fewest[set] : fewest[set] + 1;
                     if (strokes < fewest[more]) {
                         fewest[more] = strokes;
@@ -1798,9 +1802,11 @@ public final class MownMaze {
                 System.arraycopy(actSeeds, 1, actSeeds, 0, MOST_ACTS - 1);
                 acts = MOST_ACTS - 1;
             }
-            actCells[acts] = cells;
-            actSeeds[acts] = seed;
-            acts++;
+            if (acts >= 0 && acts < actCells.length && acts < actSeeds.length) {
+                actCells[acts] = cells;
+                actSeeds[acts] = seed;
+                acts++;
+            }
         }
 
         long latestCells() {
@@ -1818,7 +1824,7 @@ public final class MownMaze {
         }
 
         int addMark(long cells, int seed) {
-            if (marks >= MOST_MARKS) {
+            if (marks < 0 || marks >= markCells.length || marks >= markSeeds.length) {
                 return NONE;
             }
             markCells[marks] = cells;

@@ -225,6 +225,8 @@ public final class CellEdgesTest {
         CHECK.fine(x, "longest() of three", x.longest(), 2);
         x.mow(1, 0);
         CHECK.fine(x, "longest() of a ring", x.longest(), 2);
+        MownMaze first = cells("ms", "ss");
+        CHECK.fine(first, "longest() of the first cell alone", first.longest(), 0);
         MownMaze snake = cells("mmmmmmmm", "sssssssm", "mmmmmmmm", "msssssss", "mmmmmmmm", "sssssssm");
         CHECK.fine(snake, "longest() of a snake", snake.longest(), 26);
         MownMaze two = cells("mmmmm", "sssss", "mmsss");

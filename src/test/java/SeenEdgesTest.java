@@ -58,6 +58,13 @@ public final class SeenEdgesTest {
         CHECK.due("led(0): the first that isn't", led(some, 0), 1);
         CHECK.due("led(1): the next", led(some, 1), 3);
         CHECK.due("led(2)", led(some, 2), THROWN);
+        Check.tell(some, BARE);
+        CHECK.due("led(0): gates of an earlier meadow are gone", led(some, 0), THROWN);
+        Check.tell(some, BARE + ";gate 1,2");
+        CHECK.due("led(1): gates of an earlier meadow are gone", led(some, 1), THROWN);
+        Check.tell(some, BARE);
+        CHECK.due("led(0): gates of an earlier meadow are gone", led(some, 0), THROWN);
+        Check.tell(some, BARE + ";gate 0,2;gate 1,2;gate 2,2;gate 1,1");
         some.mow(1, 0);
         CHECK.due("led(0) of one less", led(some, 0), 1);
         CHECK.due("led(1) of one less", led(some, 1), THROWN);

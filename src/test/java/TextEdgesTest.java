@@ -1,3 +1,6 @@
+import java.util.regex.Matcher;
+import java.util.regex.Pattern;
+
 /** Terms I and promises 1 to 5, sentence by sentence: the tape, tokens, lines, faults. */
 public final class TextEdgesTest {
     private static final Check CHECK = new Check("TextEdgesTest");
@@ -10,6 +13,7 @@ public final class TextEdgesTest {
         feedOrder();
         blanks();
         words();
+        otherWords();
         wholes();
         signs();
         lines();
@@ -141,6 +145,27 @@ public final class TextEdgesTest {
         behind(ROWS, walker("a`"), 1, 9);
         behind(ROWS, walker("a{"), 1, 9);
         behind(ROWS, ";walker a leftat 0,0", 1, 10);
+    }
+
+    /** A word that is a letter off, longer or shorter is another one. */
+    private static void otherWords() {
+        CHECK.says("LINE {; LINE}. LINE, one of:");
+        String text = ROWS + ";want mm;moon ss;gate 1,1;noise 1,1;heard 1 from 0,0;walker qa left at 0,0 faces north leaves 0"
+            + ";walker qb right at 0,0 faces east leaves 0;walker qc once at 0,0 faces south leaves 0"
+            + ";walker qd cow at 0,0 faces west leaves 0;walker qe lot at 0,0 faces west leaves 0";
+        good(text, 4);
+        Matcher words = Pattern.compile("[a-z]+").matcher(text);
+        while (words.find()) {
+            String word = words.group();
+            if (!word.matches("mm|ss|q.")) {
+                String ahead = text.substring(0, words.start());
+                String rest = text.substring(words.end());
+                String shorter = word.substring(0, word.length() - 1);
+                for (String other : new String[] {"z" + word.substring(1), shorter + "z", word + "z", shorter, word.toUpperCase()}) {
+                    fault(ahead + other + rest, 1, words.start());
+                }
+            }
+        }
     }
 
     private static void wholes() {
@@ -569,25 +594,57 @@ public final class TextEdgesTest {
 
     private static void freshMeadow() {
         CHECK.says("are the MEADOW from now on (SEED 0; nothing to undo, no MARKS): how many cells are MOWN.");
-        MownMaze x = Check.maze(ROWS + ";want ss;moon ss;gate 0,0;noise 1,1;heard 1 from 0,0" + walker("a"));
-        for (int i = 0; i < 3; i++) {
-            x.seed(65536);
-            x.stand(1, 1);
-            x.mark();
-            CHECK.fine(x, "meadow()", Check.tell(x, HEAD + ";row ms;row sm"), 2);
-            int[] sizes = {2, 2, 9, 1, 0, 0, 0, -2, 2, 0, 0, 0, 0};
-            for (int what = 0; what < sizes.length; what++) {
-                CHECK.due("size(" + what + ")", x.size(what), sizes[what]);
+        String rich = square(8, 6) + (";want " + "s".repeat(8)).repeat(6) + (";moon " + "s".repeat(8)).repeat(6)
+            + ";gate 0,0;gate 1,2;gate 1,1;gate 3,3;noise 1,1" + ";heard 1 from 0,0".repeat(5)
+            + walker("a") + walker("b") + walker("c") + walker("d") + walker("e");
+        MownMaze x = new MownMaze();
+        // Twice each, so that nothing is left of the latest meadow nor of the one ahead of it.
+        for (int i = 0; i < 6; i++) {
+            boolean plain = i % 4 > 1;
+            if (plain) {
+                CHECK.fine(x, "meadow()", Check.tell(x, HEAD.replace("wide 2", "wide 3") + ";row mms;row ssm"), 3);
+                nothingOfRich(x);
+            } else {
+                CHECK.fine(x, "meadow()", Check.tell(x, rich), 48);
+                int[] sizes = {8, 6, 9, 1, 4, 5, 5, 9, 48, 0, 0, 0, 0};
+                for (int what = 0; what < sizes.length; what++) {
+                    CHECK.due("size(" + what + ")", x.size(what), sizes[what]);
+                }
+                CHECK.due("unlike(false)", x.unlike(false), 48);
+                CHECK.due("out(0)", x.out(0), 0);
+                CHECK.due("steps(0, 47)", x.steps(0, 47), 12);
             }
-            CHECK.due("unlike(false)", x.unlike(false), 0);
-            CHECK.due("unlike(true)", x.unlike(true), 0);
-            CHECK.refused(x, "undo()", x.undo(), 6);
-            CHECK.refused(x, "back(0)", x.back(0), 1);
-            CHECK.fine(x, "meadow()", Check.tell(x, ROWS.replace("wide 2", "wide 3").replace("row mm", "row mmm")), 6);
-            CHECK.fine(x, "steps(0, 5)", x.steps(0, 5), 3);
+            x.seed(65536);
+            x.stand(0, 0);
+            x.mark();
         }
         CHECK.due("none is mown", Check.tell(x, HEAD + ";row ss;row ss"), 0);
         CHECK.due("all 48 are", Check.tell(x, square(8, 6)), 48);
+        CHECK.fine(x, "names of an earlier meadow are free", Check.tell(x, ROWS + walker("b") + walker("a")), 4);
+        CHECK.fine(x, "names of an earlier meadow are free", Check.tell(x, ROWS + walker("a") + walker("b")), 4);
+    }
+
+    private static void nothingOfRich(MownMaze x) {
+        int[] sizes = {3, 2, 9, 1, 0, 0, 0, -2, 3, 0, 0, 0, 0};
+        for (int what = 0; what < sizes.length; what++) {
+            CHECK.due("size(" + what + ")", x.size(what), sizes[what]);
+        }
+        CHECK.due("unlike(false)", x.unlike(false), 0);
+        CHECK.due("unlike(true)", x.unlike(true), 0);
+        CHECK.due("places()", x.places(), 3);
+        CHECK.due("gatesSeen()", x.gatesSeen(), 0);
+        CHECK.due("crowd(0)", x.crowd(0), 0);
+        CHECK.refused(x, "out(0)", x.out(0), 1);
+        CHECK.refused(x, "undo()", x.undo(), 6);
+        CHECK.refused(x, "back(0)", x.back(0), 1);
+        CHECK.due("parts()", x.parts(), 2);
+        CHECK.due("steps(0, 1)", x.steps(0, 1), 1);
+        CHECK.due("steps(2, 3)", x.steps(2, 3), -2);
+        CHECK.due("beside(2, 0)", x.beside(2, 0), 2);
+        CHECK.due("rings()", x.rings(), 0);
+        CHECK.due("week() has no gate left", x.week(), 1);
+        CHECK.fine(x, "undo()", x.undo());
+        CHECK.due("best() may change any cell", x.best(), 0);
     }
 
     private static void refusedByTwo() {

@@ -269,6 +269,11 @@ public final class WeekEdgesTest {
         CHECK.fine(mowing, "best() by mowing", mowing.best(), 1);
         mowing.mow(1, 0);
         CHECK.fine(mowing, "best() by another cell then", mowing.best(), 3);
+        MownMaze standing = Check.maze(Check.rows(shuts(4), "mmm", "mmm") + ";gate 2,0;noise 2,0"
+            + ";walker a cow at 0,0 faces east leaves 0;walker b cow at 0,1 faces east leaves 1;walker c cow at 2,1 faces east leaves 3");
+        CHECK.fine(standing, "paid() by minutes 2, 3 and 1", standing.paid(), 12);
+        CHECK.fine(standing, "best(): by cell 1 one goes round in 4", standing.best(), 1);
+        CHECK.fine(standing, "bestPaid() by minutes 4, 3 and 1", standing.bestPaid(), 16);
         MownMaze all = Check.maze(Check.rows(shuts(4), "mmm", "sss") + ";gate 2,0" + left("a", "0,0", "north") + left("b", "0,1", "north")
             + ";walker c cow at 1,0 faces north leaves 0");
         CHECK.fine(all, "best(): not all get out", all.best(), -2);
