@@ -40,6 +40,7 @@ public final class TextEdgesTest {
         firstBytes();
         emptyThen();
         freshMeadow();
+        rowsThatEndElsewhere();
         refusedByTwo();
         refusedByFour();
         latestFault();
@@ -622,6 +623,22 @@ public final class TextEdgesTest {
         CHECK.due("all 48 are", Check.tell(x, square(8, 6)), 48);
         CHECK.fine(x, "names of an earlier meadow are free", Check.tell(x, ROWS + walker("b") + walker("a")), 4);
         CHECK.fine(x, "names of an earlier meadow are free", Check.tell(x, ROWS + walker("a") + walker("b")), 4);
+    }
+
+    private static void rowsThatEndElsewhere() {
+        for (int wide = 2; wide <= 7; wide++) {
+            MownMaze x = Check.maze(square(8, 6));
+            Check.tell(x, square(8, 6));
+            for (int i = 0; i < 2; i++) {
+                Check.tell(x, square(wide, 6));
+                CHECK.due("rings() of " + wide + " by 6", x.rings(), 5 * (wide - 1));
+                for (int cell = 0; cell < wide * 6; cell++) {
+                    int across = (cell % wide > 0 ? 1 : 0) + (cell % wide < wide - 1 ? 1 : 0);
+                    int down = (cell >= wide ? 1 : 0) + (cell < wide * 5 ? 1 : 0);
+                    CHECK.due("beside() of " + cell, x.beside(cell % wide, cell / wide), across + down);
+                }
+            }
+        }
     }
 
     private static void nothingOfRich(MownMaze x) {
