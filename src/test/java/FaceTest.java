@@ -1,3 +1,4 @@
+import java.lang.reflect.Array;
 import java.lang.reflect.Constructor;
 import java.lang.reflect.Field;
 import java.lang.reflect.Method;
@@ -5,6 +6,13 @@ import java.lang.reflect.Modifier;
 import java.nio.charset.StandardCharsets;
 import java.nio.file.Files;
 import java.nio.file.Path;
+import java.util.ArrayDeque;
+import java.util.ArrayList;
+import java.util.Arrays;
+import java.util.Collections;
+import java.util.Deque;
+import java.util.IdentityHashMap;
+import java.util.List;
 import java.util.Set;
 import java.util.TreeSet;
 
@@ -20,6 +28,8 @@ public final class FaceTest {
     public static void main(String[] args) throws Exception {
         members();
         inside();
+        names();
+        room();
         text();
         CHECK.end();
     }
@@ -87,6 +97,76 @@ public final class FaceTest {
         }
     }
 
+    /** No method inside bears the name of a public one, and none takes more than seven parameters. */
+    private static void names() {
+        Set<String> open = new TreeSet<>();
+        for (Method method : MownMaze.class.getDeclaredMethods()) {
+            if (Modifier.isPublic(method.getModifiers())) {
+                open.add(method.getName());
+            }
+            CHECK.due(method.getName() + " takes seven at most", method.getParameterCount() <= 7, true);
+        }
+        for (Class<?> inner : MownMaze.class.getDeclaredClasses()) {
+            for (Method method : inner.getDeclaredMethods()) {
+                CHECK.due(inner + "." + method.getName() + " has a name of its own", open.contains(method.getName()), false);
+                CHECK.due(inner + "." + method.getName() + " takes seven at most", method.getParameterCount() <= 7, true);
+            }
+        }
+    }
+
+    /** Were each of 512 calls a new object, all of them would have to fit into one room; calls make nothing more. */
+    private static void room() throws Exception {
+        MownMaze x = new MownMaze();
+        int[] fresh = held(x);
+        CHECK.due("objects and arrays of a new object: " + fresh[0], fresh[0] * 512 <= 600_000, true);
+        CHECK.due("fields and elements of a new object: " + fresh[1], fresh[1] * 512 <= 7_300_000, true);
+        Check.tell(x, Check.rows("dusk 200 pays 9 shuts 3", "mmmmmmmm", "mssmssmm", "mmmmmmmm")
+            + ";gate 7,2;noise 0,0;want mmmmmmmm;want mmmmmmmm;heard 2 from 0,0;walker a once at 0,0 faces east leaves 0");
+        for (int i = 0; i < 8; i++) {
+            x.mark();
+            x.thin();
+            x.strokes();
+            x.best();
+            x.meets(0, 0);
+            x.caught(0, 0, 0);
+            x.week();
+        }
+        int[] used = held(x);
+        CHECK.due("objects and arrays behind calls", used[0], fresh[0]);
+        CHECK.due("fields and elements behind calls", used[1], fresh[1]);
+    }
+
+    /** How many objects and arrays an object holds, itself among them, and how many fields and elements these have. */
+    private static int[] held(Object root) throws Exception {
+        Set<Object> met = Collections.newSetFromMap(new IdentityHashMap<>());
+        Deque<Object> left = new ArrayDeque<>();
+        met.add(root);
+        left.add(root);
+        int parts = 0;
+        while (!left.isEmpty()) {
+            Object object = left.remove();
+            List<Object> inside = new ArrayList<>();
+            if (object.getClass().isArray()) {
+                parts += Array.getLength(object);
+                inside = object instanceof Object[] ? Arrays.asList((Object[]) object) : inside;
+            } else {
+                for (Field field : object.getClass().getDeclaredFields()) {
+                    if (!Modifier.isStatic(field.getModifiers())) {
+                        parts++;
+                        field.setAccessible(true);
+                        inside.add(field.getType().isPrimitive() ? null : field.get(object));
+                    }
+                }
+            }
+            for (Object next : inside) {
+                if (next != null && met.add(next)) {
+                    left.add(next);
+                }
+            }
+        }
+        return new int[] {met.size(), parts};
+    }
+
     private static void text() throws Exception {
         String source = Files.readString(Path.of("src/main/java/MownMaze.java"), StandardCharsets.UTF_8);
         String code = source.replaceAll("(?s)/\\*.*?\\*/", "").replaceAll("//[^\n]*", "");
@@ -97,6 +177,23 @@ public final class FaceTest {
         CHECK.due("one import", code.split("import ", -1).length - 1, 1);
         CHECK.due("signs 10 and 32 to 126 alone", source.matches("[\\n -~]*"), true);
         methodLengths(code);
+        madeWhere(code);
+    }
+
+    /** Objects are made where fields are told and in constructors; but for them the one exception of led. */
+    private static void madeWhere(String code) {
+        boolean building = false;
+        for (String line : code.split("\n")) {
+            if (line.matches(" {4}( {4})?[a-zA-Z].*\\) (throws \\w+ )?\\{")) {
+                building = line.matches(" {4}( {4})?(public )?[A-Z]\\w*\\(.*");
+            }
+            boolean field = line.matches(" {8}private final .*");
+            boolean thrown = line.contains("throw new NoSuchElementException(");
+            if (line.contains("new ")) {
+                CHECK.due("made by a constructor:" + line, building || field || thrown, true);
+            }
+        }
+        CHECK.due("one throw", code.split("throw new ", -1).length - 1, 1);
     }
 
     /** Methods begin and end at the same depth of blanks, by the way this file is written. */
